@@ -8,6 +8,7 @@ public final class WordHouse {
     private static final int NO_SHARE = -100;
 
     private static final int TAPE = 900;
+    private static final int FEED = 20;
     private static final int ENTRIES = 8;
     private static final int MEANINGS_EACH = 2;
     private static final int MEANINGS = 12;
@@ -20,6 +21,9 @@ public final class WordHouse {
     private static final int CHILD = 1;
     private static final int SAILOR = 2;
 
+    private static final int MOST_GRACE = 3;
+    private static final int MOST_RENT = 60;
+    private static final int MOST_TIMES = 40;
     private static final int LAST_YEAR = 99;
     private static final int LAST_LEFT = 12;
     private static final int FORESEEN = 60;
@@ -64,7 +68,7 @@ public final class WordHouse {
     // ---- the house
 
     public int feed(int a, int b, int c, int d, int e) {
-        if (!reader.hasRoom(20)) return NONE;
+        if (!reader.hasRoom(FEED)) return NONE;
         reader.put(a);
         reader.put(b);
         reader.put(c);
@@ -1309,7 +1313,7 @@ public final class WordHouse {
         }
 
         private boolean readHouse() {
-            if (!passWord(GRACE_WORD) || !isWhole(0, 3)) return false;
+            if (!passWord(GRACE_WORD) || !isWhole(0, MOST_GRACE)) return false;
             told.grace = whole;
             step();
             if (!passWord(MOOD_WORD) || !isWhole(0, HUNDRED)) return false;
@@ -1323,7 +1327,7 @@ public final class WordHouse {
             if (!isNewName()) return false;
             long name = word;
             step();
-            if (!passWord(RENT_WORD) || !isWhole(0, 60)) return false;
+            if (!passWord(RENT_WORD) || !isWhole(0, MOST_RENT)) return false;
             if (told.entries < ENTRIES) entryNames[told.entries] = name;
             told.addEntry(whole);
             step();
@@ -1388,7 +1392,7 @@ public final class WordHouse {
             if (e == NONE) return false;
             if (told.findSaying(p, e) != NONE) return fail(AGAIN);
             step();
-            if (!passWord(TIMES_WORD) || !isWhole(1, 40)) return false;
+            if (!passWord(TIMES_WORD) || !isWhole(1, MOST_TIMES)) return false;
             told.addSaying(p, e, whole);
             step();
             return true;
@@ -1404,7 +1408,7 @@ public final class WordHouse {
             if (s == NONE) return fail(UNSAID);
             if (told.unsureOf[s] != NONE) return fail(AGAIN);
             step();
-            if (!isWhole(0, 40)) return false;
+            if (!isWhole(0, MOST_TIMES)) return false;
             told.addUnsure(s, whole);
             step();
             return true;

@@ -89,6 +89,20 @@ public final class PromisesTest {
         C.due("3 nobody behind", x.entry(0, 2), 0);
         Check.feed(x, ONE + "$$$$$");
         C.due("3 the first n bytes alone", x.house(ONE.length()), 1);
+        Check.feed(x, ONE + "234");
+        C.due("3 a number ends with the text", x.house(ONE.length()), 1);
+        C.due("3 it is 1", x.entry(0, 0), 1);
+        Check.feed(x, ONE.replace("entry a", "entry ab"));
+        refused(x, "3 a word ends with the text", x.house(28), 4);
+        C.due("5 the end", x.where(), 28);
+        Check.feed(x, "                    ");
+        refused(x, "3 none of the bytes", x.house(0), 4);
+        C.due("5 the end is the beginning", x.where(), 0);
+        C.due("3 all 900 bytes", Check.house(x, " ".repeat(900 - ONE.length()) + ONE), 1);
+        C.due("3 all 900 bytes, a word last",
+            Check.house(x, " ".repeat(900 - ONE.length() - 16) + ONE + ";speaker p child"), 1);
+        refused(x, "3 900 bytes of a word", Check.house(x, "a".repeat(900)), 4);
+        refused(x, "3 900 bytes of a number", Check.house(x, "1".repeat(900)), 4);
     }
 
     /** Promises 6 to 10. */
