@@ -1289,14 +1289,15 @@ public final class WordHouse {
         }
 
         private int lineSort() {
-            if (isWord(HOUSE_WORD)) return HOUSE_LINE;
-            if (isWord(ENTRY_WORD)) return ENTRY_LINE;
-            if (isWord(MEANS_WORD)) return MEANS_LINE;
-            if (isWord(RHYMES_WORD)) return RHYMES_LINE;
-            if (isWord(SPEAKER_WORD)) return SPEAKER_LINE;
-            if (isWord(SAYS_WORD)) return SAYS_LINE;
-            if (isWord(UNSURE_WORD)) return UNSURE_LINE;
-            if (isWord(LEFT_WORD)) return LEFT_LINE;
+            if (token != WORD) return NONE;
+            if (word == HOUSE_WORD) return HOUSE_LINE;
+            if (word == ENTRY_WORD) return ENTRY_LINE;
+            if (word == MEANS_WORD) return MEANS_LINE;
+            if (word == RHYMES_WORD) return RHYMES_LINE;
+            if (word == SPEAKER_WORD) return SPEAKER_LINE;
+            if (word == SAYS_WORD) return SAYS_LINE;
+            if (word == UNSURE_WORD) return UNSURE_LINE;
+            if (word == LEFT_WORD) return LEFT_LINE;
             return NONE;
         }
 
