@@ -35,6 +35,8 @@ public final class TextBoundsTest {
         theEnd();
         faultAndWhere();
         theNewHouse();
+        theThirdHouse();
+        nothingOfTheTextBefore();
         C.end();
     }
 
@@ -145,6 +147,11 @@ public final class TextBoundsTest {
         C.due("is a fault", x.trouble(), 4);
         C.due("of form", x.fault(), 1);
         C.due("at the beginning", x.where(), 0);
+        Check.feed(x, " " + text);
+        C.due("none of the bytes that there are", x.house(0), -1);
+        C.due("is a fault of form", x.fault(), 1);
+        C.due("at the beginning of none", x.where(), 0);
+        C.due("they are gone", x.size(13), 0);
         Check.feed(x, text);
         C.due("one byte less: no number", x.house(text.length() - 1), -1);
         C.due("at the end", x.where(), text.length() - 1);
@@ -154,6 +161,15 @@ public final class TextBoundsTest {
         C.due("lacks an entry", x.fault(), 6);
         Check.feed(x, text);
         C.due("the first two lines", x.house(HEAD.length() + 15), 1);
+        // A TOKEN ends with the bytes that are read, whatever stands behind them.
+        String kind = HEAD + entryLines(1) + ";speaker p child";
+        Check.feed(x, kind + "ren");
+        C.due("a word ends there", x.house(kind.length()), 1);
+        Check.feed(x, text + "99");
+        C.due("a number ends there", x.house(text.length()), 2);
+        C.due("the number", x.entry(1, 0), 1);
+        Check.feed(x, text + ";");
+        C.due("no line behind it", x.house(text.length()), 2);
     }
 
     /** The first byte that begins no TOKEN. */
@@ -496,6 +512,60 @@ public final class TextBoundsTest {
         fault(1, " ".repeat(900) + "^");
         fault(6, HEAD + " ".repeat(900 - HEAD.length()) + "^");
         fault(1, HEAD + " ".repeat(898 - HEAD.length()) + ";" + " ^");
+    }
+
+    private static String fullText() {
+        return "house grace 3 mood 100" + entryLines(8) + ";means a b,c;means a d;means b h;means h a,b,c;means c b;means c h;"
+            + "rhymes a b;rhymes c d;rhymes h a" + speakerLines(4) + sayLines(14)
+            + ";unsure p a 0;unsure q b 40;left a year 2;left h year 9";
+    }
+
+    /** Nothing of an earlier HOUSE, or of a text with a FAULT, is in a later one. */
+    private static void theThirdHouse() {
+        String[] small = {HEAD + ";entry a rent 1", HEAD + entryLines(8), HEAD + entryLines(3) + ";means c a;rhymes b c",
+            HEAD + entryLines(2) + speakerLines(2) + ";says q b times 3", "house grace 0 mood 0;entry z rent 0",
+            HEAD + entryLines(3) + ";left b year 2", HEAD + entryLines(2) + speakerLines(1) + sayLines(2) + ";unsure p b 9"};
+        for (String text : small) {
+            WordHouse fresh = new WordHouse();
+            Check.house(fresh, text);
+            Picture due = Picture.whole(fresh);
+            String[][] earlier = {{fullText(), fullText()}, {fullText() + ";left a year 1"}, {fullText(), fullText() + "!"},
+                {small[0], fullText() + ";left b year 13"}};
+            for (String[] before : earlier) {
+                WordHouse x = new WordHouse();
+                for (String one : before) {
+                    if (Check.house(x, one) > 0) {
+                        x.say(0, 9);
+                        x.year();
+                    }
+                }
+                Check.house(x, text);
+                String difference = Picture.whole(x).difference(due);
+                C.due(text + " behind other texts " + difference, difference.isEmpty(), true);
+            }
+        }
+    }
+
+    /** A sign that is no TOKEN is none, whatever TOKEN stood before it; nor does a WORD of an earlier text count. */
+    private static void nothingOfTheTextBefore() {
+        fault(1, HEAD + ";entry rent ^! 1");
+        fault(1, HEAD + ";entry rent^! 1");
+        fault(1, "house grace ^! mood 5;entry a rent 1");
+        fault(1, HEAD + ";entry times rent 1;speaker p child;says p times ^! 1");
+        fault(1, HEAD + entryLines(3) + ";means a b,^!c");
+        fault(1, HEAD + entryLines(3) + ";means a ^! b");
+        WordHouse x = new WordHouse();
+        Check.house(x, "house");
+        C.due("a number for a word", Check.house(x, "5 grace 1 mood 5;entry a rent 1"), -1);
+        C.due("its place", x.where(), 0);
+        C.due("its fault", x.fault(), 1);
+        Check.house(x, HEAD + ";entry a rent 1;entry b");
+        C.due("a name of the text before", Check.house(x, HEAD + ";entry c rent 1;left a year 1"), -1);
+        C.due("isn't told", x.fault(), 2);
+        Check.house(x, HEAD + ";entry c rent 1;speaker p child!");
+        C.due("nor is a speaker's", Check.house(x, HEAD + ";entry c rent 1;says p c times 1"), -1);
+        C.due("he isn't told", x.fault(), 2);
+        C.due("told anew", Check.house(x, HEAD + ";entry p rent 1;entry c rent 1;speaker a child"), 2);
     }
 
     /** Promises 4 and 5. */

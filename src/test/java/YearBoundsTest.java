@@ -26,12 +26,14 @@ public final class YearBoundsTest {
         rhymes();
         fits();
         asking();
+        sets();
         judging();
         likelihoods();
         means();
         draws();
         seedRound();
         moodyYears();
+        unsureOnesAreAsTold();
         C.end();
     }
 
@@ -85,6 +87,11 @@ public final class YearBoundsTest {
         x.say(1, 1);
         C.due("60 of 60", x.pays(1, 1), 1);
         C.due("nobody owes", x.debtors(), 0);
+        x = Check.of(house(3, 0, 2) + ";speaker p child;says p a times 3");
+        x.year();
+        C.due("debtors in year 2", x.debtors(), 0);
+        x.year();
+        C.due("debtors in year 3", x.debtors(), 1);
     }
 
     /** II: above its own rent by as many as this one lacks, or more; in the house; one may help several. */
@@ -370,6 +377,8 @@ public final class YearBoundsTest {
         C.due("by that by which it is least", x.depth(3), 1);
         x = Check.of(house(0, 0, 0, 0, 0, 0) + ";means b a;means c b;means d a,c");
         C.due("1 more than the deepest", x.depth(3), 3);
+        x = Check.of(house(0, 0, 0, 0, 0, 0) + ";means b a;means c b;means d b,c");
+        C.due("by those one and two deep", x.depth(3), 3);
         x = Check.of(circle());
         C.due("not grounded", x.depth(7), -2);
         x = Check.of(house(0, 0, 0, 0) + ";means b a");
@@ -424,6 +433,11 @@ public final class YearBoundsTest {
         C.due("in it", x.circular(1), 1);
         x = Check.of(house(0, 0, 0, 0, 0) + ";means a b;means a c;means c a");
         C.due("by any meaning", x.circular(0), 1);
+        x = Check.of(house(0, 0, 0, 0, 0) + ";means a b;means a b,c;means b c");
+        C.due("told in both meanings", x.roots(0), 6);
+        C.due("explained by c", x.entry(2, 6), 3);
+        C.due("explained by b", x.entry(1, 6), 1);
+        C.due("explained by a", x.entry(0, 6), 0);
     }
 
     /** III: APART; promises 27 and 28. */
@@ -468,6 +482,8 @@ public final class YearBoundsTest {
         C.due("one family of seven", Check.of(house(0, 0, 0, 0, 0, 0, 0, 0, 0) + ";rhymes a g;rhymes b g;rhymes c g;rhymes d g;"
             + "rhymes e g;rhymes f g").families(), 1);
         C.due("one of one", Check.of(house(0, 0, 0)).families(), 1);
+        C.due("pairs", Check.of(house(0, 0, 0, 0, 0, 0, 0, 0, 0) + ";rhymes f g;rhymes b c;rhymes e d").families(), 4);
+        C.due("through a later one", Check.of(house(0, 0, 0, 0, 0, 0) + ";rhymes b d;rhymes c d").families(), 2);
         x = Check.of(house(0, 0, 0, 0, 0, 0) + ";rhymes a b;rhymes b c;rhymes c d;rhymes d a");
         C.due("the shorter way round", x.chime(0, 3), 1);
         C.due("both ways alike", x.chime(0, 2), 2);
@@ -535,6 +551,64 @@ public final class YearBoundsTest {
         C.due("it is left", x.askLeaves(), 1);
     }
 
+    /** Promises 31 to 36 by sets that can be counted by hand. */
+    private static void sets() {
+        String two = ";speaker p pedant;speaker q pedant;says p a times 1;says q a times 1";
+        // Of 2 there is enough by 1 and 1, 0 and 2, 1 and 2, but not by 0 and 1.
+        WordHouse x = Check.of(house(0, 0, 2) + two + ";unsure p a 0;unsure q a 2;left a year 1");
+        C.due("only one set", x.fits(), 1);
+        C.due("it is p's other", x.fitAt(0), 1);
+        C.due("p's could be", x.could(), 1);
+        x = Check.of(house(0, 0, 1) + two + ";unsure p a 0;unsure q a 0;left a year 1");
+        C.due("only both", x.fitAt(0), 3);
+        C.due("surely both", x.surely(), 3);
+        C.due("both could be", x.could(), 3);
+        String three = ";speaker p pedant;speaker q pedant;speaker r pedant;says p a times 1;says q a times 1;says r a times 1";
+        // Neither p nor q by 3: then r must be 0.
+        x = Check.of(house(0, 0, 3) + three + ";unsure p a 3;unsure q a 3;unsure r a 0;left a year 1");
+        C.due("r's other alone", x.fitAt(0), 4);
+        C.due("no more", x.fits(), 1);
+        C.due("surely r's", x.surely(), 4);
+        // Below 3: p 1 with any but 1 and 1 (three sets), p 2 with 0 and 0 (one set).
+        x = Check.of(house(0, 0, 3) + three + ";unsure p a 2;unsure q a 0;unsure r a 0;left a year 1");
+        C.due("four sets", x.fits(), 4);
+        int[] four = {2, 4, 6, 7};
+        for (int i = 0; i < 4; i++) C.due("set " + i, x.fitAt(i), four[i]);
+        C.due("each leaves three at most: the first", x.ask(), 0);
+        C.due("three are left at most", x.askLeaves(), 3);
+        C.due("all could be", x.could(), 7);
+        C.due("none in all", x.surely(), 0);
+        x = Check.of(house(0, 0, 3, 1) + three + ";says p b times 1;unsure p b 2;unsure p a 2;unsure q a 0;unsure r a 0;left a year 1");
+        C.due("eight sets", x.fits(), 8);
+        C.due("b's halves them, the first of all", x.ask(), 0);
+        C.due("four are left", x.askLeaves(), 4);
+        x = Check.of(house(0, 0, 1, 1) + ";speaker p pedant;says p a times 1;says p b times 1;unsure p a 0;unsure p b 0;left b year 1");
+        C.due("a's or not", x.fits(), 2);
+        C.due("b's alone", x.fitAt(0), 2);
+        C.due("both", x.fitAt(1), 3);
+        C.due("both could be", x.could(), 3);
+        C.due("b's surely", x.surely(), 2);
+        C.due("of a's to ask", x.ask(), 0);
+        C.due("one of two is left", x.askLeaves(), 1);
+        // One of both by 3 is enough until year 2, both until year 3, none until year 1.
+        x = Check.of(house(0, 0, 2) + ";speaker p child;speaker q child;says p a times 1;says q a times 1;unsure p a 3;unsure q a 3;"
+            + "left a year 3");
+        C.due("one or the other", x.fits(), 2);
+        C.due("p's", x.fitAt(0), 1);
+        C.due("q's", x.fitAt(1), 2);
+        C.due("each could be, though none has both", x.could(), 3);
+        C.due("none surely", x.surely(), 0);
+        C.due("one is left", x.askLeaves(), 1);
+        // By q's 3 it is enough in year 2, too; else it is behind from then on.
+        x = Check.of(house(1, 0, 2) + ";speaker p child;speaker q child;says p a times 2;says q a times 1;unsure p a 1;unsure q a 3;"
+            + "left a year 3");
+        C.due("two sets", x.fits(), 2);
+        C.due("as told", x.fitAt(0), 0);
+        C.due("by p's other", x.fitAt(1), 1);
+        C.due("p's could be", x.could(), 1);
+        C.due("q's tells nothing", x.ask(), 0);
+    }
+
     /** Promise 37: the first entry, by numbers. */
     private static void judging() {
         C.due("just so", Check.of(house(0, 0, 1, 1) + ";left b year 1;left a year 1").judge(), -2);
@@ -592,6 +666,16 @@ public final class YearBoundsTest {
         part("but pays", x.odds(1, false), x.odds(1, true), 1, 1);
         x = Check.of(house(0, 50, 0) + ";speaker p child;speaker q child;speaker r child;speaker s child");
         part("who says nothing of it counts for nothing", x.odds(0, false), x.odds(0, true), 1, 1);
+        x = Check.of(house(3, 50, 2, 2) + ";speaker p child;speaker q sailor;says p a times 2;says q b times 1");
+        part("a child in year 1", x.odds(0, false), x.odds(0, true), 1, 2);
+        part("a sailor in year 1", x.odds(1, false), x.odds(1, true), 0, 1);
+        x.year();
+        part("a child in year 2", x.odds(0, false), x.odds(0, true), 0, 1);
+        part("a sailor in year 2", x.odds(1, false), x.odds(1, true), 1, 2);
+        x.say(0, 1);
+        part("a child in year 2, and said", x.odds(0, false), x.odds(0, true), 1, 2);
+        x.say(0, 1);
+        part("said often enough", x.odds(0, false), x.odds(0, true), 1, 1);
     }
 
     /** Promise 42. */
@@ -607,6 +691,9 @@ public final class YearBoundsTest {
         part("mood 1", x.mean(0, false), x.mean(0, true), 693, 100);
         x = Check.of(house(0, 50, 4) + text);
         part("mood 50", x.mean(0, false), x.mean(0, true), 7, 2);
+        x.say(0, 5);
+        part("mood 50, and said", x.mean(0, false), x.mean(0, true), 17, 2);
+        x.undo();
         x.evict(0);
         part("an out one", x.mean(0, false), x.mean(0, true), 7, 2);
         x = Check.of(house(0, 50, 4));
@@ -724,5 +811,35 @@ public final class YearBoundsTest {
             C.due("undone", x.lodgers(), 7);
             C.due("with the seed", x.size(10), seed);
         }
+    }
+
+    /** But for FITS, each unsure saying is so many times as told. */
+    private static void unsureOnesAreAsTold() {
+        String sure = house(0, 50, 2) + ";speaker p pedant;says p a times 2";
+        for (String text : new String[] {sure, sure + ";unsure p a 0"}) {
+            WordHouse x = Check.of(text);
+            C.due("says", x.saysIn(0, 0, 1), 2);
+            C.due("uses", x.uses(0, 1), 2);
+            C.due("pays", x.pays(0, 1), 1);
+            C.due("debtors", x.debtors(), 0);
+            C.due("after", x.after(60), 1);
+            C.due("outIn", x.outIn(0), -2);
+            C.due("keep", x.keep(0), 0);
+            C.due("moody, 36 being below 50", x.moody(65536, 1), 0);
+            part("odds", x.odds(0, false), x.odds(0, true), 1, 2);
+            part("mean", x.mean(0, false), x.mean(0, true), 1, 1);
+            part("stays", x.stays(0, false), x.stays(0, true), 1, 2);
+            C.due("year", x.year(), 0);
+            C.due("paid", x.entry(0, 2), 0);
+        }
+        WordHouse x = Check.of(house(0, 0, 2) + ";speaker p pedant;says p a times 2;unsure p a 0");
+        C.due("moody", x.moody(0, 60), 1);
+        C.due("firstOut", x.firstOut(0, 60), -2);
+        C.due("moodyYear", x.moodyYear(), 0);
+        C.due("what he says, unsure or not", x.speaker(0, 1), 1);
+        x = Check.of(house(0, 0, 0, 0, 0) + ";speaker p pedant;speaker q child;says p a times 2;says q b times 1;says p c times 3;"
+            + "unsure p c 0");
+        C.due("all he says", x.speaker(0, 1), 5);
+        C.due("all the other says", x.speaker(1, 1), 2);
     }
 }
