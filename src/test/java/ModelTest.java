@@ -1,6 +1,4 @@
 import java.nio.charset.StandardCharsets;
-import java.util.ArrayList;
-import java.util.List;
 import java.util.NoSuchElementException;
 import java.util.Random;
 import java.util.function.LongSupplier;
@@ -11,12 +9,14 @@ public final class ModelTest {
     private static final Check CHECK = new Check();
 
     private final Random chance;
+    private final Texts texts;
     private final WordHouse x = new WordHouse();
     private final Model model = new Model();
     private String latest = "";
 
     private ModelTest(long seed) {
         chance = new Random(seed);
+        texts = new Texts(chance);
     }
 
     public static void main(String[] args) {
@@ -32,7 +32,7 @@ public final class ModelTest {
         int calls = 0;
         while (calls < CALLS && CHECK.wrong() == 0) {
             if (calls == 0 && chance.nextInt(10) > 0 || chance.nextInt(150) == 0) {
-                calls += tell(chance.nextInt(5) == 0 ? spoiled(text()) : text());
+                calls += tell(chance.nextInt(5) == 0 ? texts.spoiled() : texts.whole());
             } else {
                 call();
             }
@@ -45,7 +45,7 @@ public final class ModelTest {
     }
 
     private void readWrongText() {
-        tell(spoiled(text()));
+        tell(texts.spoiled());
         same("size(2)", x.size(2), model.size(2));
     }
 
@@ -53,126 +53,11 @@ public final class ModelTest {
         CHECK.due(call + " [" + latest + "]", got, want);
     }
 
-    // ---- texts
-
     private int below(int n) {
         return chance.nextInt(n);
     }
 
-    private String text() {
-        int entries = 1 + below(8);
-        int speakers = below(5);
-        StringBuilder text = new StringBuilder("house grace " + below(4) + " mood " + (below(4) == 0 ? below(2) * 100 : below(101)));
-        int rent = below(3) == 0 ? 61 : 16;
-        for (int e = 0; e < entries; e++) text.append(";entry ").append(word(e)).append(" rent ").append(below(rent));
-        List<String> lines = new ArrayList<>();
-        int[] meanings = new int[entries];
-        for (int k = below(13); k > 0 && entries > 1; k--) {
-            int e = below(entries);
-            int by = below(1 << entries) & (below(2) == 0 ? below(1 << entries) : -1) & ~(1 << e);
-            if (by == 0 || meanings[e] == 2) continue;
-            meanings[e]++;
-            StringBuilder line = new StringBuilder("means " + word(e) + " ");
-            for (int o = 0; o < entries; o++) {
-                if ((by >> o & 1) == 1) line.append(word(o)).append(',');
-            }
-            line.setLength(line.length() - 1);
-            lines.add(line.toString());
-        }
-        boolean[] rhymed = new boolean[64];
-        for (int k = below(7); k > 0; k--) {
-            int e = below(entries);
-            int other = below(entries);
-            if (e == other || rhymed[8 * e + other]) continue;
-            rhymed[8 * e + other] = true;
-            rhymed[8 * other + e] = true;
-            lines.add("rhymes " + word(e) + " " + word(other));
-        }
-        boolean lefts = below(3) == 0;
-        for (int e = 0; e < entries; e++) {
-            if (lefts && below(5) == 0) lines.add("left " + word(e) + " year " + (1 + below(below(3) == 0 ? 12 : 5)));
-        }
-        mix(lines, text);
-        for (int p = 0; p < speakers; p++) {
-            text.append(";speaker ").append((char) ('p' + p)).append(' ').append(kind(below(3)));
-        }
-        sayings(entries, speakers, text);
-        if (!lefts) leftAsByChance(text);
-        return text.length() > 900 ? text() : text.toString();
-    }
-
-    /** Tells years in which words did leave by some set of unsure sayings: sets by chance seldom fit. */
-    private void leftAsByChance(StringBuilder text) {
-        Model other = new Model();
-        other.tape.append(text);
-        other.house(text.length());
-        Integer[] out = other.leaving(below(1 << other.home.unsures));
-        for (int e = 0; e < out.length; e++) {
-            if (out[e] != null && out[e] <= 12 && below(3) > 0) {
-                text.append(";left ").append(word(e)).append(" year ").append(out[e]);
-            }
-        }
-    }
-
-    private void mix(List<String> lines, StringBuilder text) {
-        while (!lines.isEmpty()) text.append(';').append(lines.remove(below(lines.size())));
-    }
-
-    private void sayings(int entries, int speakers, StringBuilder text) {
-        List<String> unsure = new ArrayList<>();
-        boolean[] said = new boolean[64];
-        int most = below(3) == 0 ? 40 : 14;
-        for (int k = speakers == 0 ? 0 : below(15); k > 0; k--) {
-            int p = below(speakers);
-            int e = below(entries);
-            if (said[8 * p + e]) continue;
-            said[8 * p + e] = true;
-            String both = (char) ('p' + p) + " " + word(e);
-            text.append(";says ").append(both).append(" times ").append(1 + below(most));
-            if (unsure.size() < 4 && below(3) == 0) unsure.add("unsure " + both + " " + below(most + 1));
-        }
-        mix(unsure, text);
-    }
-
-    private static String word(int e) {
-        return String.valueOf((char) ('a' + e));
-    }
-
-    private static String kind(int k) {
-        return k == 0 ? "pedant" : k == 1 ? "child" : "sailor";
-    }
-
-    private static final String[] SCRAPS = {"a", "b", "h", "p", "q", "z", "house", "entry", "means", "rhymes", "speaker",
-        "says", "unsure", "left", "grace", "mood", "rent", "times", "year", "pedant", "child", "sailor", "0", "1", "3",
-        "4", "12", "13", "40", "41", "60", "61", "100", "101", "999", "1000", "007", ";", ",", ";;", "abcdefgh",
-        "abcdefghi", "A", ".", "\n", "\u00e9", "means a b", "rhymes a b", "entry x rent 5", "left a year 1",
-        "says p a times 1", "unsure p a 1", "speaker y child"};
-
-    /** A text with some of its TOKENS, or LINES, changed, doubled, moved, or cut. */
-    private String spoiled(String text) {
-        String[] lines = text.split(";");
-        List<String> some = new ArrayList<>(List.of(lines));
-        for (int k = below(3); k > 0; k--) {
-            int at = below(some.size());
-            switch (below(4)) {
-                case 0 -> some.add(at, some.get(below(some.size())));
-                case 1 -> some.add(some.get(at));
-                case 2 -> some.add(below(2) == 0 ? some.size() : at, SCRAPS[below(SCRAPS.length)]);
-                default -> {
-                    if (some.size() > 1) some.remove(at);
-                }
-            }
-        }
-        String made = String.join(below(4) == 0 ? " ;" : ";", some);
-        for (int k = below(3); k > 0; k--) {
-            int at = below(made.length() + 1);
-            int to = Math.min(made.length(), at + below(4));
-            String scrap = SCRAPS[below(SCRAPS.length)];
-            made = made.substring(0, at) + (below(3) == 0 ? " " + scrap + " " : below(2) == 0 ? scrap : "") + made.substring(to);
-        }
-        if (below(8) == 0) made = made.substring(0, below(made.length() + 1));
-        return made.length() > 900 ? made.substring(0, 900) : made;
-    }
+    // ---- texts
 
     /** How many calls it took. */
     private int tell(String text) {
