@@ -334,10 +334,22 @@ public final class YearBoundsTest {
         return text.toString();
     }
 
+    /** Eight entries, each explained by the one ahead of it (or behind it), but one end. */
+    private static String chain(boolean ahead) {
+        String text = house(0, 0, 0, 0, 0, 0, 0, 0, 0, 0);
+        for (char e = 'b'; e <= 'h'; e++) {
+            char before = (char) (e - 1);
+            text += ahead ? ";means " + e + " " + before : ";means " + before + " " + e;
+        }
+        return text;
+    }
+
     /** III: RINGS. */
     private static void rings() {
         C.due("no meanings, no rings", Check.of(house(0, 0, 0, 0)).rings(), 0);
         C.due("a circle of eight", Check.of(circle()).rings(), 255);
+        C.due("all eight of a chain are grounded", Check.of(chain(true)).rings(), 0);
+        C.due("and from its end", Check.of(chain(false)).rings(), 0);
         C.due("a circle of two", Check.of(house(0, 0, 0, 0) + ";means a b;means b a").rings(), 3);
         C.due("what rests on a circle is no better", Check.of(house(0, 0, 0, 0, 0, 0) + ";means a b;means b a;means c a,d").rings(), 7);
         WordHouse x = Check.of(house(0, 0, 0, 0, 0) + ";means a b;means b a;means b c");
@@ -354,6 +366,8 @@ public final class YearBoundsTest {
     /** III: POINT, the fewest; of like ones the least bits. */
     private static void point() {
         C.due("none needed", Check.of(house(0, 0, 0, 0) + ";means b a").point(), 0);
+        C.due("none needed by a chain of eight", Check.of(chain(true)).point(), 0);
+        C.due("nor from its end", Check.of(chain(false)).point(), 0);
         C.due("one of eight", Check.of(circle()).point(), 1);
         C.due("all but one", Check.of(everyoneByAllOthers()).point(), 127);
         C.due("not the first one", Check.of(house(0, 0, 0, 0, 0) + ";means a b;means b c;means c b").point(), 2);
@@ -369,10 +383,10 @@ public final class YearBoundsTest {
 
     /** Promise 23. */
     private static void depth() {
-        String up = "";
-        for (char e = 'b'; e <= 'h'; e++) up += ";means " + e + " " + (char) (e - 1);
-        WordHouse x = Check.of(house(0, 0, 0, 0, 0, 0, 0, 0, 0, 0) + up);
+        WordHouse x = Check.of(chain(true));
         for (int e = 0; e < 8; e++) C.due("depth " + e, x.depth(e), e);
+        x = Check.of(chain(false));
+        for (int e = 0; e < 8; e++) C.due("depth downwards " + e, x.depth(e), 7 - e);
         x = Check.of(house(0, 0, 0, 0, 0, 0) + ";means b a;means c b;means d c;means d a");
         C.due("by that by which it is least", x.depth(3), 1);
         x = Check.of(house(0, 0, 0, 0, 0, 0) + ";means b a;means c b;means d a,c");
@@ -397,6 +411,8 @@ public final class YearBoundsTest {
     private static void fell() {
         C.due("each by itself", Check.of(house(0, 0, 0, 0, 0, 0, 0, 0, 0, 0)).fell(), 255);
         C.due("one of a circle", Check.of(circle()).fell(), 1);
+        C.due("the first of a chain", Check.of(chain(true)).fell(), 1);
+        C.due("the last of one the other way", Check.of(chain(false)).fell(), 128);
         C.due("one of all by all", Check.of(everyoneByAllOthers()).fell(), 1);
         C.due("not the first one", Check.of(house(0, 0, 0, 0) + ";means a b").fell(), 2);
         C.due("the last one", Check.of(house(0, 0, 0, 0, 0, 0, 0, 0, 0, 0) + ";means a h;means b h;means c h;means d h;means e h;"
