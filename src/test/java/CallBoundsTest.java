@@ -1,3 +1,6 @@
+import java.util.ArrayList;
+import java.util.List;
+
 /**
  * The bounds of each call's numbers, and its refusals (promises 1, 6 to 57, and IV of the document's terms): the last
  * number that is allowed and the first that isn't, on both sides; what a refused call answers, what trouble() tells
@@ -72,6 +75,7 @@ public final class CallBoundsTest {
         noneSuchIsNoRefusal();
         troubleOfTheLatest();
         lookingChangesNothing();
+        looksLeaveNothingBehind();
         C.end();
     }
 
@@ -520,7 +524,8 @@ public final class CallBoundsTest {
 
     /** Promise 52: 16 are kept. */
     private static void undoing() {
-        for (int acts = 0; acts <= 18; acts++) {
+        // Twice and three times as many as are kept, too: the oldest makes room each time.
+        for (int acts = 0; acts <= 52; acts++) {
             WordHouse x = new WordHouse();
             one(x);
             for (int k = 0; k < acts; k++) x.say(0, 1);
@@ -558,6 +563,26 @@ public final class CallBoundsTest {
         for (int k = 0; k < 4; k++) x.undo();
         C.due("said at last", x.entry(0, 3), 2);
         C.due("no more", x.undo(), false);
+        // Behind a way back, and in a new house, as many are kept as ever.
+        x = new WordHouse();
+        one(x);
+        x.image();
+        for (int k = 0; k < 21; k++) x.say(0, 1);
+        x.back(0);
+        for (int k = 0; k < 37; k++) x.say(0, 1);
+        for (int k = 1; k <= 16; k++) {
+            x.undo();
+            C.due("said behind undo " + k + " behind a way back", x.entry(0, 3), 37 - k);
+        }
+        C.due("no more behind a way back", x.undo(), false);
+        for (int k = 0; k < 11; k++) x.say(0, 1);
+        one(x);
+        for (int k = 0; k < 50; k++) x.say(0, 1);
+        for (int k = 1; k <= 16; k++) {
+            x.undo();
+            C.due("said behind undo " + k + " in a new house", x.entry(0, 3), 50 - k);
+        }
+        C.due("no more in a new house", x.undo(), false);
         // Refused acts are none.
         x = new WordHouse();
         lived(x);
@@ -794,5 +819,49 @@ public final class CallBoundsTest {
             C.due("the second look " + first.difference(second), first.difference(second).isEmpty(), true);
             C.due("two looks take few calls", first.calls() + second.calls() < 480, true);
         }
+    }
+
+    /** What was looked at ahead of an act plays no part in what is asked behind it. */
+    private static void looksLeaveNothingBehind() {
+        Pair.Way[] acts = {x -> x.evict(0), x -> x.evict(3), x -> x.year(), x -> x.undo(), x -> x.say(1, 9), x -> x.back(0)};
+        List<Pair.Call> looks = looks();
+        for (Pair.Way act : acts) {
+            for (int ask = 0; ask < looks.size(); ask++) {
+                long due = looks.get(ask).of(actedUpon(act, x -> 0));
+                for (int look = 0; look < looks.size(); look++) {
+                    C.due("look " + ask + " behind look " + look, looks.get(ask).of(actedUpon(act, looks.get(look))), due);
+                }
+            }
+        }
+    }
+
+    private static WordHouse actedUpon(Pair.Way act, Pair.Call look) {
+        WordHouse x = new WordHouse();
+        four(x);
+        x.image();
+        x.evict(3);
+        look.of(x);
+        x.take(3);
+        look.of(x);
+        act.go(x);
+        return x;
+    }
+
+    /** All calls that only look. */
+    private static List<Pair.Call> looks() {
+        List<Pair.Call> looks = new ArrayList<>();
+        for (int k = 0; k < OF_THE_HOUSE.length; k++) {
+            if (!List.of("year", "moodyYear", "image").contains(OF_THE_HOUSE_NAMES[k])) looks.add(OF_THE_HOUSE[k]);
+        }
+        for (int k = 0; k < OF_ENTRIES.length; k++) {
+            Numbered call = OF_ENTRIES[k];
+            if (List.of("say", "evict").contains(OF_ENTRIES_NAMES[k])) continue;
+            looks.add(x -> call.of(x, 1));
+            looks.add(x -> call.of(x, 2));
+        }
+        looks.add(x -> x.after(60));
+        looks.add(x -> x.moody(9, 60));
+        looks.add(x -> x.firstOut(9, 60));
+        return looks;
     }
 }

@@ -27,6 +27,7 @@ public final class YearBoundsTest {
         fits();
         asking();
         sets();
+        eachSetOfFour();
         judging();
         likelihoods();
         means();
@@ -155,6 +156,22 @@ public final class YearBoundsTest {
         x.take(0);
         C.due("taken in: 0", x.entry(0, 2), 0);
         C.due("out in four", x.outIn(0), 4);
+        // Each of eight: behind, and out at once; behind, and evicted; behind, and taken in again.
+        x = Check.of(house(1, 0, 1, 1, 1, 1, 1, 1, 1, 1));
+        x.year();
+        for (int e = 0; e < 8; e++) C.due("each of eight is behind " + e, x.entry(e, 2), 1);
+        x.image();
+        C.due("all eight go", x.year(), 255);
+        for (int e = 0; e < 8; e++) C.due("out of eight: 0 " + e, x.entry(e, 2), 0);
+        x.back(0);
+        for (int e = 0; e < 8; e++) {
+            C.due("as by the image " + e, x.entry(e, 2), 1);
+            x.evict(e);
+            C.due("evicted of eight: 0 " + e, x.entry(e, 2), 0);
+            x.take(e);
+            C.due("taken in of eight: 0 " + e, x.entry(e, 2), 0);
+        }
+        C.due("two years for each", x.year() + 1000 * x.year(), 255000);
         // One year that is paid, and all the grace is there again.
         x = Check.of(house(3, 0, 1));
         for (int y = 0; y < 3; y++) x.year();
@@ -623,6 +640,46 @@ public final class YearBoundsTest {
         C.due("by p's other", x.fitAt(1), 1);
         C.due("p's could be", x.could(), 1);
         C.due("q's tells nothing", x.ask(), 0);
+    }
+
+    /**
+     * Promises 31 to 36 by each set of four. As told, a word goes in year 2, by its other saying in year 1: what is told
+     * to have left then tells of each saying whether it is in the set.
+     */
+    private static void eachSetOfFour() {
+        for (int set = 0; set < 16; set++) {
+            WordHouse x = ofFour(set, 15 & ~set);
+            C.due("just one set, " + set, x.fits(), 1);
+            C.due("it is set " + set, x.fitAt(0), set);
+            C.due("could, of set " + set, x.could(), set);
+            C.due("surely, of set " + set, x.surely(), set);
+            C.due("ask, of set " + set, x.ask(), 0);
+            C.due("askLeaves, of set " + set, x.askLeaves(), 1);
+            x = ofFour(set, 0);
+            C.due("sets with all of " + set, x.fits(), 16 >> Integer.bitCount(set));
+            C.due("the first with all of " + set, x.fitAt(0), set);
+            C.due("the last with all of " + set, x.fitAt(x.fits() - 1), 15);
+            C.due("could, with all of " + set, x.could(), 15);
+            C.due("surely, with all of " + set, x.surely(), set);
+            C.due("ask, with all of " + set, x.ask(), set == 15 ? 0 : Integer.numberOfTrailingZeros(~set));
+            C.due("askLeaves, with all of " + set, x.askLeaves(), Math.max(1, x.fits() / 2));
+            x = ofFour(0, 15 & ~set);
+            C.due("sets within " + set, x.fits(), 1 << Integer.bitCount(set));
+            C.due("the last within " + set, x.fitAt(x.fits() - 1), set);
+            C.due("could, within " + set, x.could(), set);
+            C.due("surely, within " + set, x.surely(), 0);
+        }
+    }
+
+    private static WordHouse ofFour(int others, int asTold) {
+        StringBuilder text = new StringBuilder(house(0, 0, 1, 1, 1, 1)).append(";speaker p child");
+        for (int e = 0; e < 4; e++) {
+            char name = (char) ('a' + e);
+            text.append(";says p ").append(name).append(" times 1;unsure p ").append(name).append(" 0");
+            if ((others >> e & 1) == 1) text.append(";left ").append(name).append(" year 1");
+            if ((asTold >> e & 1) == 1) text.append(";left ").append(name).append(" year 2");
+        }
+        return Check.of(text.toString());
     }
 
     /** Promise 37: the first entry, by numbers. */
